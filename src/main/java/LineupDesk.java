@@ -393,12 +393,7 @@ public final class LineupDesk {
         final int[] guiltMatches = new int[MOST_PERSONS];
 
         Lineup() {
-            for (int k = 0; k < MOST_TRAITS; k++) {
-                toldValues[k] = NONE;
-            }
-            for (int k = 0; k < SETTINGS; k++) {
-                settings[k] = USUAL_SETTING[k];
-            }
+            clear();
         }
 
         void clear() {
@@ -447,8 +442,8 @@ public final class LineupDesk {
             if (weights[trait] == 0) {
                 return 0;
             }
-            int due = guilt ? valueOf(SUSPECT, trait) : toldValues[trait];
-            return Math.abs(valueOf(person, trait) - due);
+            int due = guilt ? values[SUSPECT * MOST_TRAITS + trait] : toldValues[trait];
+            return Math.abs(values[person * MOST_TRAITS + trait] - due);
         }
 
         void showFirst() {
@@ -653,24 +648,20 @@ public final class LineupDesk {
             return bytes[place] >= '0' && bytes[place] <= '9';
         }
 
-        private boolean isKind(int k, int kind) {
-            return k >= 0 && k < count && kinds[k] == kind;
-        }
-
         boolean isEnd(int k) {
-            return k >= count || isKind(k, END);
+            return k >= count || kinds[k] == END;
         }
 
         boolean isSign(int k, char sign) {
-            return isKind(k, SIGN) && contents[k] == sign;
+            return k < count && kinds[k] == SIGN && contents[k] == sign;
         }
 
         boolean isNumber(int k) {
-            return isKind(k, NUMBER);
+            return k < count && kinds[k] == NUMBER;
         }
 
         boolean isWord(int k, String word) {
-            if (!isKind(k, WORD) || contents[k] != word.length()) {
+            if (k >= count || kinds[k] != WORD || contents[k] != word.length()) {
                 return false;
             }
             for (int j = 0; j < contents[k]; j++) {
@@ -682,11 +673,11 @@ public final class LineupDesk {
         }
 
         int placeAt(int k) {
-            return k >= 0 && k < count ? places[k] : length;
+            return k < count ? places[k] : length;
         }
 
         int contentAt(int k) {
-            return k >= 0 && k < count ? contents[k] : 0;
+            return k < count ? contents[k] : 0;
         }
     }
 

@@ -354,6 +354,10 @@ public final class PromisesTest {
         due("mocks stay hiding", d.mocks(1), 2);
         d.show(1);
         due("mock shown again", d.mock(1), 3);
+        for (int k = 4; k <= 999; k++) {
+            due("mock up to 999", d.mock(1), k);
+        }
+        thrown("mock of 999", STATE, () -> d.mock(1));
     }
 
     private static void promise9() {
