@@ -181,6 +181,19 @@ public final class PromisesTest {
         due("nothing told anew", d.trait(0, 0), NONE);
         due("no weight anew", d.trait(0, 1), 0);
         due("match of nothing told", d.match(0, false), 0);
+        cutShort("    traits 1;suspect 1;", 0, 1, 0);
+        cutShort("traits 1;suspect 12;", 18, 1, 18);
+        cutShort("traits 1;suspect 1;cut 5;", 21, 1, 19);
+        cutShort("traits 1;suspect 1;cut 5;", 22, 1, 22);
+    }
+
+    /** A text of which only the first bytes are taken: what stands behind them on the tape counts for nothing. */
+    private static void cutShort(String text, int n, int kind, int place) {
+        LineupDesk d = new LineupDesk();
+        feedAll(d, text);
+        due("first " + n + " of \"" + text + "\"", d.text(n), kind - 10);
+        due("fault of it", d.fault(), place);
+        due("tape behind it", d.told(8), 0);
     }
 
     private static void textForm() {
@@ -566,6 +579,9 @@ public final class PromisesTest {
         LineupDesk zero = desk("traits 1;suspect 4;filler 9;filler 4;filler 1;match 0;");
         due("fairest of none that match", zero.fairest(3, 0), 6);
         fraction("its size", () -> zero.fairest(3, 1), () -> zero.fairest(3, 2), 0, 1);
+        LineupDesk one = desk("traits 1;suspect 0;filler 0;filler 1;match value 0;");
+        due("fairest of one that matches", one.fairest(2, 0), 4);
+        fraction("its size", () -> one.fairest(2, 1), () -> one.fairest(2, 2), 1, 1);
         thrown("fairest(1)", WRONG, () -> d.fairest(1, 0));
         thrown("fairest(9)", WRONG, () -> d.fairest(9, 0));
         thrown("fairest what 3", WRONG, () -> d.fairest(2, 3));
