@@ -709,7 +709,6 @@ public final class LineupDesk {
             draft.clear();
             formula.clear();
             faultKind = FINE;
-            faultPlace = NONE;
             at = 0;
             seen = 0;
             boolean going = readTraits();
@@ -719,6 +718,8 @@ public final class LineupDesk {
             if (faultKind == FINE && (seen & SUSPECT_BIT) == 0) {
                 fail(NO_SUSPECT);
             }
+            // Reading stops at a fault, so that it still stands where the fault is.
+            faultPlace = faultKind == FINE ? NONE : tokens.placeAt(at);
             if (faultKind == FINE) {
                 formula.rate(draft);
                 draft.showFirst();
@@ -728,7 +729,6 @@ public final class LineupDesk {
 
         private boolean fail(int kind) {
             faultKind = kind;
-            faultPlace = tokens.placeAt(at);
             return false;
         }
 

@@ -116,6 +116,16 @@ public final class FaceTest {
                 .matcher(source);
         need(!thrown.find(), "a throw is of another form");
         methodLengths(source);
+        objectsMade(source);
+    }
+
+    /** All rows are made with the object: no call makes one, but for the exception that it throws. */
+    private static void objectsMade(String source) {
+        for (String line : source.split("\n")) {
+            boolean ofField = line.matches(" {4}( {4})?(private )?(final )?[\\w\\[\\]]+ \\w+ = new .*;");
+            boolean ofConstructor = line.trim().equals("past[k] = new Lineup();");
+            need(!line.contains("new ") || line.contains("throw new ") || ofField || ofConstructor, "made by a call: " + line);
+        }
     }
 
     private static void methodLengths(String source) {

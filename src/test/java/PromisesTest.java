@@ -1,15 +1,5 @@
 /** Each promise of the document by hand: ordinary inputs, edges, wrong inputs. */
-public final class PromisesTest {
-    private static final String MISSING = "NoSuchElementException";
-    private static final String WRONG = "IllegalArgumentException";
-    private static final String STATE = "IllegalStateException";
-    private static final int NONE = LineupDesk.NONE;
-    private static int failures = 0;
-
-    private interface Call {
-        long run();
-    }
-
+public final class PromisesTest extends Checks {
     public static void main(String[] args) {
         promise1();
         promise2();
@@ -38,83 +28,7 @@ public final class PromisesTest {
         promise23();
         promise24();
         exceptionOrder();
-        System.out.println(failures == 0 ? "promises: all as due" : "promises: " + failures + " not as due");
-        if (failures != 0) {
-            System.exit(1);
-        }
-    }
-
-    private static void due(String name, long got, long want) {
-        if (got != want) {
-            failures++;
-            System.out.println(name + " answered " + got + ", due is " + want);
-        }
-    }
-
-    private static void thrown(String name, String want, Call call) {
-        String got = "nothing";
-        try {
-            call.run();
-        } catch (RuntimeException e) {
-            got = e.getClass().getSimpleName();
-        }
-        if (!got.equals(want)) {
-            failures++;
-            System.out.println(name + " threw " + got + ", due is " + want);
-        }
-    }
-
-    private static void feedAll(LineupDesk desk, String text) {
-        for (int from = 0; from < text.length(); from += 20) {
-            int[] numbers = new int[5];
-            for (int k = 0; k < 20; k++) {
-                int sign = from + k < text.length() ? text.charAt(from + k) : 0;
-                numbers[k / 4] |= sign << 24 - 8 * (k % 4);
-            }
-            desk.feed(numbers[0], numbers[1], numbers[2], numbers[3], numbers[4]);
-        }
-    }
-
-    private static int tell(LineupDesk desk, String text) {
-        feedAll(desk, text);
-        return desk.text(text.length());
-    }
-
-    private static LineupDesk desk(String text) {
-        LineupDesk desk = new LineupDesk();
-        int got = tell(desk, text);
-        if (got < 0) {
-            failures++;
-            System.out.println("refused text: " + text + " with " + got + " at " + desk.fault());
-        }
-        return desk;
-    }
-
-    private static void fault(String text, int kind, int place) {
-        LineupDesk desk = new LineupDesk();
-        due("text of \"" + text + "\"", tell(desk, text), kind - 10);
-        due("fault of \"" + text + "\"", desk.fault(), place);
-    }
-
-    private static void fine(String text, int persons) {
-        LineupDesk desk = new LineupDesk();
-        due("text of \"" + text + "\"", tell(desk, text), persons);
-        due("fault of \"" + text + "\"", desk.fault(), NONE);
-    }
-
-    private static void fraction(String name, Call above, Call below, long wantAbove, long wantBelow) {
-        due(name + " above", above.run(), wantAbove);
-        due(name + " below", below.run(), wantBelow);
-    }
-
-    private static void chances(LineupDesk d, int way, int person, boolean guilt, boolean blind, long above, long below) {
-        fraction("chance(" + way + ", " + person + ", " + guilt + ", " + blind + ")",
-                () -> d.chance(way, person, guilt, blind, 0), () -> d.chance(way, person, guilt, blind, 1), above, below);
-    }
-
-    private static void oddsOf(LineupDesk d, int way, boolean blind, boolean picked, long above, long below) {
-        fraction("odds(" + way + ", " + blind + ", " + picked + ")",
-                () -> d.odds(way, blind, picked, 0), () -> d.odds(way, blind, picked, 1), above, below);
+        finish("promises");
     }
 
     private static void promise1() {
